@@ -22,6 +22,8 @@ public final class LeafStripes {
     private static final int MAX_STEPS = 8;
     private static final int MAX_ACTS = 40;
     private static final int MAX_YEARS = 10;
+    /** A view shows all that it has. */
+    private static final int ALL_LEAVES = (1 << MAX_LEAVES) - 1;
 
     private static final int FAULT_TOKEN = 1;
     private static final int FAULT_TOO_MUCH = 2;
@@ -239,13 +241,13 @@ public final class LeafStripes {
         if (isWrong()) {
             return NONE;
         }
-        return teller.tell(ownShape, now, record, set, NONE);
+        return teller.tell(ownShape, ownShape, now, record, set, NONE);
     }
 
     public int sign(int record, int set, int i) throws NoSuchElementException, IllegalArgumentException {
         needRecord(record);
         needSet(set);
-        if (i < 0 || isWrong() || i >= teller.tell(ownShape, now, record, set, i)) {
+        if (i < 0 || isWrong() || i >= teller.tell(ownShape, ownShape, now, record, set, i)) {
             throw new NoSuchElementException("no such byte");
         }
         return teller.found;
@@ -265,12 +267,13 @@ public final class LeafStripes {
         if (viewShape.fieldCount == 0 || isWrong()) {
             return NONE;
         }
-        return tellSeen(record, NONE);
+        return teller.tell(viewShape, ownShape, now, record, ALL_LEAVES, NONE);
     }
 
     public int seenSign(int record, int i) throws NoSuchElementException {
         needRecord(record);
-        if (i < 0 || viewShape.fieldCount == 0 || isWrong() || i >= tellSeen(record, i)) {
+        if (i < 0 || viewShape.fieldCount == 0 || isWrong()
+                || i >= teller.tell(viewShape, ownShape, now, record, ALL_LEAVES, i)) {
             throw new NoSuchElementException("no such byte");
         }
         return teller.found;
@@ -455,11 +458,6 @@ public final class LeafStripes {
         faultPlace = text.start;
         now.refusedTexts++;
         return true;
-    }
-
-    private int tellSeen(int record, int wanted) {
-        // a view shows all that it has: each of its fields has a leaf of its own, so all bits show it
-        return teller.tellBy(viewShape, ownShape, now, record, -1, wanted);
     }
 
     private int countChecked(int what) {
@@ -1243,20 +1241,17 @@ public final class LeafStripes {
                 if (text.token == Text.END) {
                     return i == 0 ? FAULT_TOKEN : 0;
                 }
-                if (!readRecord()) {
+                if (records >= MAX_RECORDS) {
+                    return canBegin(0) ? FAULT_TOO_MUCH : FAULT_TOKEN;
+                }
+                if (!readFields(NONE, 0, 0, 0) || !readEnd()) {
                     return fault;
                 }
             }
             return FAULT_TOKEN;
         }
 
-        private boolean readRecord() {
-            if (records >= MAX_RECORDS) {
-                return fail(canBegin(0) ? FAULT_TOO_MUCH : FAULT_TOKEN);
-            }
-            if (!readFields(NONE, 0, 0, 0)) {
-                return false;
-            }
+        private boolean readEnd() {
             if (text.token != ';') {
                 return fail(FAULT_TOKEN);
             }
@@ -1541,12 +1536,8 @@ public final class LeafStripes {
         /** By depth and leaf: the entry with which the item that is told begins. */
         private final int[][] at = new int[MAX_OPEN + 2][MAX_LEAVES];
 
-        int tell(Shape schema, State source, int record, int setTold, int byteWanted) {
-            return tellBy(schema, schema, source, record, setTold, byteWanted);
-        }
-
-        /** By the fields of one shape, which may be fields of the schema: how many bytes. */
-        int tellBy(Shape telling, Shape schema, State source, int record, int setTold, int byteWanted) {
+        /** By the fields of one shape (the schema itself, or a view of it): how many bytes. */
+        int tell(Shape telling, Shape schema, State source, int record, int setTold, int byteWanted) {
             shape = telling;
             base = schema;
             state = source;

@@ -1,6 +1,11 @@
+import java.lang.reflect.InvocationTargetException;
+import java.lang.reflect.Method;
 import java.util.ArrayList;
+import java.util.Arrays;
 import java.util.Collections;
+import java.util.HashMap;
 import java.util.List;
+import java.util.Map;
 import java.util.NoSuchElementException;
 import java.util.Random;
 
@@ -8,6 +13,7 @@ import java.util.Random;
 public final class ModelTests {
     private static final int THROWS_MISSING = Integer.MIN_VALUE;
     private static final int THROWS_ARGUMENT = Integer.MIN_VALUE + 1;
+    private static final Map<String, Method> METHODS = new HashMap<>();
     private static final String[] NAMES = {"a", "b", "c", "d", "ab", "one", "many", "zzzz", "xy", "q", "g", "h"};
 
     private final Random random;
@@ -52,6 +58,10 @@ public final class ModelTests {
     private void run() {
         if (rarely(10)) {
             someCalls(10);
+        }
+        if (rarely(8)) {
+            // few bytes a record: so there come to be 30 of them, 120 entries, 40 acts
+            send("schema", new String[] {"maybe a;", "many a;", "many a;maybe b;", "many a{maybe b;}"}[upTo(3)]);
         }
         for (int i = 0; i < 6 && model.count(0) == 0; i++) {
             send("schema", schemaText());
@@ -390,91 +400,40 @@ public final class ModelTests {
     private int call(String name, int... a) {
         int due = answer(true, name, a);
         int got = answer(false, name, a);
-        log.append(name).append(java.util.Arrays.toString(a)).append(" = ").append(due).append('\n');
+        log.append(name).append(Arrays.toString(a)).append(" = ").append(due).append('\n');
         compared++;
         if (due != got) {
-            throw new AssertionError(name + java.util.Arrays.toString(a) + " answered " + got + ", due is " + due);
+            throw new AssertionError(name + Arrays.toString(a) + " answered " + got + ", due is " + due);
         }
         return due;
     }
 
     private int answer(boolean ofModel, String name, int[] a) {
         try {
-            return ofModel ? ask(model, name, a) : ask(mine, name, a);
-        } catch (NoSuchElementException e) {
-            return THROWS_MISSING;
-        } catch (IllegalArgumentException e) {
-            return THROWS_ARGUMENT;
+            Object got = method(ofModel ? Model.class : LeafStripes.class, name, a.length)
+                    .invoke(ofModel ? model : mine, (Object[]) Arrays.stream(a).boxed().toArray(Integer[]::new));
+            return got == null ? 0 : got instanceof Boolean ? (Boolean) got ? 1 : 0 : (Integer) got;
+        } catch (InvocationTargetException e) {
+            if (e.getCause() instanceof NoSuchElementException) {
+                return THROWS_MISSING;
+            }
+            if (e.getCause().getClass() == IllegalArgumentException.class) {
+                return THROWS_ARGUMENT;
+            }
+            throw new AssertionError(name + Arrays.toString(a) + (ofModel ? " of the model" : ""), e.getCause());
+        } catch (IllegalAccessException e) {
+            throw new AssertionError(e);
         }
     }
 
-    private static int ask(Model x, String name, int[] a) {
-        switch (name) {
-            case "feed": return x.feed(a[0], a[1], a[2], a[3], a[4]);
-            case "schema": return x.schema(a[0]);
-            case "add": return x.add(a[0]);
-            case "view": return x.view(a[0]);
-            case "pipe": return x.pipe(a[0]);
-            case "fault": return x.fault();
-            case "count": return x.count(a[0]);
-            case "field": return x.field(a[0], a[1]);
-            case "name": return x.name(a[0], a[1]);
-            case "leaf": return x.leaf(a[0], a[1]);
-            case "entry": return x.entry(a[0], a[1], a[2]);
-            case "skip": return x.skip(a[0], a[1], a[2]);
-            case "next": return x.next(a[0], a[1], a[2]);
-            case "length": return x.length(a[0], a[1]);
-            case "sign": return x.sign(a[0], a[1], a[2]);
-            case "reads": return x.reads(a[0], a[1]);
-            case "seen": return x.seen(a[0]);
-            case "seenSign": return x.seenSign(a[0], a[1]);
-            case "fold": return x.fold(a[0], a[1]);
-            case "picked": return x.picked(a[0], a[1], a[2]);
-            case "pages": return x.pages(a[0], a[1]);
-            case "piped": return x.piped(a[0], a[1]);
-            case "drop": return x.drop();
-            case "set": return x.set(a[0], a[1], a[2]);
-            case "damage": return x.damage(a[0], a[1], a[2], a[3]);
-            case "undo": return x.undo();
-            case "years": return x.years(a[0], a[1], a[2]);
-            case "image": x.image(); return 0;
-            case "restore": return x.restore() ? 1 : 0;
-            default: throw new AssertionError(name);
-        }
-    }
-
-    private static int ask(LeafStripes x, String name, int[] a) {
-        switch (name) {
-            case "feed": return x.feed(a[0], a[1], a[2], a[3], a[4]);
-            case "schema": return x.schema(a[0]);
-            case "add": return x.add(a[0]);
-            case "view": return x.view(a[0]);
-            case "pipe": return x.pipe(a[0]);
-            case "fault": return x.fault();
-            case "count": return x.count(a[0]);
-            case "field": return x.field(a[0], a[1]);
-            case "name": return x.name(a[0], a[1]);
-            case "leaf": return x.leaf(a[0], a[1]);
-            case "entry": return x.entry(a[0], a[1], a[2]);
-            case "skip": return x.skip(a[0], a[1], a[2]);
-            case "next": return x.next(a[0], a[1], a[2]);
-            case "length": return x.length(a[0], a[1]);
-            case "sign": return x.sign(a[0], a[1], a[2]);
-            case "reads": return x.reads(a[0], a[1]);
-            case "seen": return x.seen(a[0]);
-            case "seenSign": return x.seenSign(a[0], a[1]);
-            case "fold": return x.fold(a[0], a[1]);
-            case "picked": return x.picked(a[0], a[1], a[2]);
-            case "pages": return x.pages(a[0], a[1]);
-            case "piped": return x.piped(a[0], a[1]);
-            case "drop": return x.drop();
-            case "set": return x.set(a[0], a[1], a[2]);
-            case "damage": return x.damage(a[0], a[1], a[2], a[3]);
-            case "undo": return x.undo();
-            case "years": return x.years(a[0], a[1], a[2]);
-            case "image": x.image(); return 0;
-            case "restore": return x.restore() ? 1 : 0;
-            default: throw new AssertionError(name);
-        }
+    private static Method method(Class<?> c, String name, int parameters) {
+        return METHODS.computeIfAbsent(c.getName() + name + parameters, key -> {
+            for (Method m : c.getDeclaredMethods()) {
+                if (m.getName().equals(name) && m.getParameterCount() == parameters) {
+                    return m;
+                }
+            }
+            throw new AssertionError("no method " + name);
+        });
     }
 }

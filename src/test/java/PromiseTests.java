@@ -220,6 +220,9 @@ public final class PromiseTests {
         schemaFault("   ", 1, 3);
         schemaFault("x", 1, 0);
         schemaFault("onea;", 1, 0);
+        schemaFault("xne a;", 1, 0);
+        schemaFault("zany a;", 1, 0);
+        schemaFault("on a;", 1, 0);
         schemaFault("one a", 1, 5);
         schemaFault("one a  ", 1, 7);
         schemaFault("one ", 1, 4);
@@ -415,6 +418,8 @@ public final class PromiseTests {
         pipeFault("plus 1", 1, 6);
         pipeFault("plus 1;gap", 1, 10);
         pipeFault("1;", 1, 0);
+        pipeFault("glus 1;", 1, 0);
+        pipeFault("pluss 1;", 1, 0);
         LeafStripes x = made("many a;", "[1 2 3];");
         pipe(x, "plus 1;gap 1;");
         due("it stays", pipe(x, "plus 2;x"), 1);
