@@ -13,6 +13,8 @@ import java.util.Random;
 public final class ModelTests {
     private static final int THROWS_MISSING = Integer.MIN_VALUE;
     private static final int THROWS_ARGUMENT = Integer.MIN_VALUE + 1;
+    private static final int[] WILD = {Integer.MIN_VALUE, Integer.MAX_VALUE, Integer.MIN_VALUE + 1, -2, -1, 3, 7, 8, 9, 10,
+        15, 16, 17, 29, 30, 31, 32, 63, 64, 119, 120, 121, 127, 128, 255, 256, 699, 700, 999, 1000, 1 << 30, 65536};
     private static final Map<String, Method> METHODS = new HashMap<>();
     private static final String[] NAMES = {"a", "b", "c", "d", "ab", "one", "many", "zzzz", "xy", "q", "g", "h"};
 
@@ -149,7 +151,11 @@ public final class ModelTests {
 
     private void someCalls(int many) {
         for (int i = 0; i < many; i++) {
-            someCall();
+            if (rarely(4)) {
+                wildCall();
+            } else {
+                someCall();
+            }
         }
     }
 
@@ -194,6 +200,19 @@ public final class ModelTests {
             case 20: call("set", leaf, upTo(entries(leaf) + 1) - 1, upTo(20)); break;
             default: call("damage", leaf, upTo(entries(leaf) + 1) - 1, 5 + upTo(3), upTo(4)); break;
         }
+    }
+
+    /** Any call but a text's, with any numbers. */
+    private void wildCall() {
+        String[] names = {"count", "fault", "undo", "drop", "seen", "field", "name", "leaf", "length", "reads", "seenSign",
+            "fold", "pages", "piped", "entry", "skip", "next", "sign", "picked", "set", "years", "damage"};
+        int[] parameters = {1, 0, 0, 0, 1, 2, 2, 2, 2, 2, 2, 2, 2, 2, 3, 3, 3, 3, 3, 3, 3, 4};
+        int which = random.nextInt(names.length);
+        int[] a = new int[parameters[which]];
+        for (int i = 0; i < a.length; i++) {
+            a[i] = rarely(2) ? WILD[random.nextInt(WILD.length)] : upTo(2);
+        }
+        call(names[which], a);
     }
 
     private void allOfState() {
