@@ -12,7 +12,7 @@ import java.util.TreeSet;
 import java.util.regex.Matcher;
 import java.util.regex.Pattern;
 
-/** What can be seen of the rules of LANGUAGE.md: by reflection on the class, and in its text. */
+/** The document's face, and what can be seen of the rules of LANGUAGE.md: by reflection on the class, and in its text. */
 public final class LanguageTests {
     private static final List<String> FACE = List.of("feed", "schema", "add", "view", "pipe", "fault", "count", "field",
             "name", "leaf", "entry", "skip", "next", "length", "sign", "reads", "seen", "seenSign", "fold", "picked",
@@ -28,6 +28,7 @@ public final class LanguageTests {
 
     public static void main(String[] args) throws Exception {
         face();
+        faceOfTheDocument();
         List<Class<?>> classes = new ArrayList<>();
         collect(LeafStripes.class, classes);
         rule(11, classes.size() <= 12, "classes: " + classes.size());
@@ -71,6 +72,46 @@ public final class LanguageTests {
             rule(1, Modifier.isStatic(inside.getModifiers()) && !Modifier.isPublic(inside.getModifiers()),
                     "class " + inside);
         }
+    }
+
+    /** Each constant, constructor and method as the document writes it, what it throws too, and no other. */
+    private static void faceOfTheDocument() throws Exception {
+        String document = Files.readString(Path.of("../shared/DOC.md"));
+        Matcher block = Pattern.compile("(?s)## The public face\\s+```java(.*?)```").matcher(document);
+        rule(1, block.find(), "the document tells the face");
+        Set<String> told = new TreeSet<>();
+        for (String line : block.group(1).split("\n")) {
+            if (line.startsWith("    public ")) {
+                told.add(line.strip().replaceAll("\\bint \\w+(?=[,)])", "int"));
+            }
+        }
+        rule(1, told.equals(faceOfTheClass()), "the document's face is\n" + told + "\nthe class's is\n" + faceOfTheClass());
+    }
+
+    private static Set<String> faceOfTheClass() throws IllegalAccessException {
+        Set<String> face = new TreeSet<>();
+        for (Field f : LeafStripes.class.getFields()) {
+            face.add(Modifier.toString(f.getModifiers()) + " " + f.getType() + " " + f.getName() + " = " + f.get(null) + ";");
+        }
+        for (Constructor<?> c : LeafStripes.class.getConstructors()) {
+            face.add("public LeafStripes(" + names(c.getParameterTypes()) + ");");
+        }
+        for (Method m : LeafStripes.class.getDeclaredMethods()) {
+            if (Modifier.isPublic(m.getModifiers())) {
+                String thrown = names(m.getExceptionTypes());
+                face.add(Modifier.toString(m.getModifiers()) + " " + m.getReturnType() + " " + m.getName() + "("
+                        + names(m.getParameterTypes()) + ")" + (thrown.isEmpty() ? "" : " throws " + thrown) + ";");
+            }
+        }
+        return face;
+    }
+
+    private static String names(Class<?>[] types) {
+        List<String> names = new ArrayList<>();
+        for (Class<?> type : types) {
+            names.add(type.getSimpleName());
+        }
+        return String.join(", ", names);
     }
 
     private static void membersOf(Class<?> c) {
